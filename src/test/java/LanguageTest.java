@@ -1,4 +1,6 @@
 import java.io.IOException;
+import java.lang.reflect.Field;
+import java.lang.reflect.Modifier;
 import java.nio.file.Files;
 import java.nio.file.Path;
 import java.util.regex.Matcher;
@@ -8,7 +10,7 @@ import java.util.regex.Pattern;
 public final class LanguageTest {
     private static final String[] FORBIDDEN = {
         "\\bimport\\b", "\\bpackage\\b", "->", "::", "@", "\\bsynchronized\\b", "\\bassert\\b", "\\bfinally\\b", "\\bvolatile\\b",
-        "\\bnative\\b", "\\bvar\\b", "\\bthrow\\s+[a-z]", "Exact\\b", "getMessage", "\\bSystem\\.(?!arraycopy)", "\\bThread\\b",
+        "\\bnative\\b", "\\bvar\\b", "\\bthrow\\s+(?!new\\b)", "Exact\\b", "getMessage", "\\bSystem\\.(?!arraycopy)", "\\bThread\\b",
         "\\bObject\\b", "\\b(Byte|Short|Character|Boolean|Double|Float|Objects|Collections|Stream)\\b", "\\bMath\\.(?!max|min)",
         "Integer\\.(?!bitCount)", "catch\\s*\\(\\s*(RuntimeException|Exception|Throwable|Error|ArrayIndex|Index|NullPointer"
             + "|Arithmetic|ClassCast|NegativeArray|ArrayStore)", "\\b(hashCode|equals|toString)\\b", "static \\{",
@@ -27,7 +29,7 @@ public final class LanguageTest {
             }
         }
         Check.due("at most twelve classes", Math.max(12, times("\\bclass [A-Z]", bare)), 12);
-        Check.due("at most 20 fields a class", Math.max(20, mostFields(bare)), 20);
+        Check.due("at most 20 fields a class", Math.max(20, mostFields()), 20);
         Check.due("at most 60 lines a method", Math.max(60, longestMethod(bare)), 60);
         Check.due("at most 7 parameters", times("\\((\\s*[\\w\\[\\]]+ \\w+,){7}", bare), 0);
         Check.end();
@@ -42,12 +44,22 @@ public final class LanguageTest {
         return n;
     }
 
-    private static int mostFields(String text) {
-        int most = 0;
-        for (String part : text.split("\\bclass [A-Z]")) {
-            most = Math.max(most, times("(?m)^ {4,8}(private )?(final )?(int|boolean|[A-Z]\\w+)(\\[\\])? \\w+( = [^;]*)?;", part));
+    private static int mostFields() {
+        int most = fields(SlowerForTheLate.class);
+        for (Class<?> inside : SlowerForTheLate.class.getDeclaredClasses()) {
+            most = Math.max(most, fields(inside));
         }
         return most;
+    }
+
+    private static int fields(Class<?> of) {
+        int n = 0;
+        for (Field field : of.getDeclaredFields()) {
+            n += Modifier.isStatic(field.getModifiers()) ? 0 : 1;
+            Check.due("static means final: " + field, Modifier.isStatic(field.getModifiers())
+                && !Modifier.isFinal(field.getModifiers()) ? 1 : 0, 0);
+        }
+        return n;
     }
 
     /** Methods stand four or eight columns in, and end with a brace in the same column. */
