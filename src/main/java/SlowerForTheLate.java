@@ -1412,7 +1412,7 @@ public final class SlowerForTheLate {
             if (!Walker.isKind(kind) || !Walker.isFigure(figure) || !isBase(baseMinute)) {
                 return false;
             }
-            if (!isStop(fromStop) || !isStop(toStop) || fromStop >= toStop || people >= MOST_PEOPLE) {
+            if (!isStop(fromStop) || !isStop(toStop) || fromStop >= toStop) {
                 return false;
             }
             return addPerson(Walker.ofKind(kind, figure), fromStop, toStop, baseMinute);

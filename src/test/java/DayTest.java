@@ -75,10 +75,25 @@ public final class DayTest {
         for (int what = 0; what < 6; what++) {
             Check.due("no seats: sums(" + what + ")", full.sums(what), none[what]);
         }
-        // on the third: parent 8, lover 3, staff 0; with a cancelled train no other comes
+        // all come at 36 and get the third: parent 8, lover 3, staff 0
         SlowerForTheLate thirds = Check.of("t0209;l30;p7004036;p3004034;p4004039;");
         Check.due("refunds of the third", thirds.sums(4), 11);
         Check.due("waited", thirds.sums(3), 0);
+        SlowerForTheLate first = Check.of("t0209;p0001013;p0002015;");
+        Check.due("all waited", first.sums(3), 12);
+        // who has left counts no more
+        SlowerForTheLate left = Check.of("t0202;p0001015;p7004019;p0004023;");
+        left.sums(0);
+        Check.due("two and one places", left.fullest(0, 0) * 10 + left.fullest(0, 1), 12);
+        left.leaves(2);
+        left.leaves(1);
+        int[] alone = {1, 0, 0, 5, 0, 30};
+        for (int what = 0; what < 6; what++) {
+            Check.due("who has left: sums(" + what + ")", left.sums(what), alone[what]);
+        }
+        Check.due("who has left: worth()", left.worth(), 30);
+        Check.due("who has left: fullest(0, 0)", left.fullest(0, 0), 1);
+        Check.due("who has left: fullest(0, 1)", left.fullest(0, 1), 0);
     }
 
     private static void aboards() {

@@ -44,6 +44,7 @@ public final class LaterTest {
         Check.due("to the second", x.slack(1), 8);
         Check.due("none", x.slack(3), 0);
         Check.due("stranded with all", x.slack(2), 60);
+        Check.due("one", Check.of("t0209;p0001019;").slack(0), 1);
         Check.due("59", Check.of("t0599;p0001000;").slack(0), 59);
         Check.due("60", Check.of("t0609;p0001000;").slack(0), 60);
         Check.due("not above 60", Check.of("t0619;p0001000;").slack(0), 60);
@@ -87,6 +88,8 @@ public final class LaterTest {
         Check.due("neither", Check.of("t0201;p0004020;p0004020;").two(0, 1), 0);
         Check.due("ten later", Check.of("t0209;t0409;p0004022;p0004020;").two(0, 1), 20);
         Check.due("ten later, the other", Check.of("t0209;t0409;p0004022;p0004020;").two(1, 0), 2);
+        Check.due("5, not 6", Check.of("t0209;t0409;p0004025;p0004020;").two(0, 1), 20);
+        Check.due("15 is no choice", Check.of("t0209;t0409;l12;p0004022;p0004020;").two(0, 1), 0);
         Check.due("both ten later", Check.of("t0209;t0409;p0004022;p0004022;").two(1, 0), 22);
         Check.due("both five later", Check.of("t0209;t0409;p0004030;p0004030;").two(0, 1), 11);
         // comes 26, 31, 36 and 25, 30, 35 with one at 25: whatever they choose, one would choose again

@@ -14,6 +14,7 @@ public final class OtherwiseTest {
         need();
         extra();
         changesNothing();
+        eachAskedBehindEach();
         Check.end();
     }
 
@@ -38,6 +39,7 @@ public final class OtherwiseTest {
         Check.due("and that is cancelled", x.strike(), 0);
         Check.due("seconds run again", x.sums(0), 2);
         Check.due("two firsts", Check.of("t0201;t0301;p0004020;p0004020;p0004020;").strike(), 2);
+        Check.due("the second told runs first", Check.of("t0501;t0201;p0001020;p0001050;").strike(), 2);
         Check.due("no trains", Check.of("p0004020;").strike(), 0);
     }
 
@@ -78,6 +80,7 @@ public final class OtherwiseTest {
         Check.due("ten", Check.of(DayTest.ONE_SEAT).bestLate(), 10);
         Check.due("eleven", Check.of("t0209;p0001031;").bestLate(), 11);
         Check.due("thirty", Check.of("t0209;g30;p0001050;").bestLate(), 30);
+        Check.due("one", Check.of("t0209;g01;p0001021;").bestLate(), 1);
         Check.due("no law helps", Check.of("t0209;g30;p0001051;").bestLate(), 0);
         Check.due("no need of any", Check.of("t0209;l30;p0001020;").bestLate(), 0);
         Check.due("nobody", Check.of("l30;").bestLate(), 0);
@@ -96,6 +99,8 @@ public final class OtherwiseTest {
         Check.due("gap as it was", x.count(4), 8);
         Check.due("thirty", Check.of("t0209;l30;p0001050;").bestGap(), 30);
         Check.due("one", Check.of("t0209;p0001021;").bestGap(), 1);
+        // 31 would be the best, if it were one: the third of 16 is
+        Check.due("thirty-one is none", Check.of("t0209;l30;p7001051;").bestGap(), 16);
         Check.due("all alike", Check.of("t0209;p0001020;").bestGap(), 1);
         Check.due("no trains", Check.of("g09;p0001020;").bestGap(), 1);
     }
@@ -177,6 +182,55 @@ public final class OtherwiseTest {
         x.bestGap();
         x.extra();
         Check.due("all is as it was", before.equals(told(x)) ? 1 : 0, 1);
+    }
+
+    /** No question may hang on what another one has tried. */
+    private static void eachAskedBehindEach() {
+        for (int first = 0; first < QUESTIONS; first++) {
+            for (int second = 0; second < QUESTIONS; second++) {
+                SlowerForTheLate x = Check.of(EARLIER);
+                ask(x, first);
+                while (x.count(0) > 0) {
+                    x.leaves(0);
+                }
+                Check.write(x, 7, "x1;l10;g08;s5;h2;r010;p0004020;p0002020;p0004031;p0004030;");
+                x.day(7);
+                x.base(1, 19);
+                SlowerForTheLate fresh = Check.of("t0201;t0903;p0004020;p0002019;p0004031;p0004030;");
+                Check.due(second + " behind " + first, ask(x, second), ask(fresh, second));
+            }
+        }
+    }
+
+    private static final int QUESTIONS = 20;
+    private static final String EARLIER =
+        "t0201;t0903;x1;l03;g02;s9;h9;r033;p7904010;p6602011;p5304012;p3104013;p4012014;p2912015;";
+
+    private static long ask(SlowerForTheLate x, int question) {
+        switch (question) {
+            case 0: return x.later(1, 1);
+            case 1: return x.slack(1);
+            case 2: return x.odds(3);
+            case 3: return x.mean(1, 0);
+            case 4: return x.two(0, 1);
+            case 5: return x.whose(0);
+            case 6: return x.cancel(0);
+            case 7: return x.strike();
+            case 8: return x.snow(3);
+            case 9: return x.law(2);
+            case 10: return x.bestLate();
+            case 11: return x.worth();
+            case 12: return x.bestGap();
+            case 13: return x.bestStart(1);
+            case 14: return x.need(0);
+            case 15: return x.extra();
+            case 16: return x.came(3, 118, 0);
+            case 17: return x.sure(3, 1);
+            case 18: return x.mornings(4, 9, 0);
+            default:
+                Check.write(x, 6, 1, 0);
+                return x.tickets(6, 0) + 100L * x.forged(6);
+        }
     }
 
     private static String told(SlowerForTheLate x) {
