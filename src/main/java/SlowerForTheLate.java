@@ -309,8 +309,7 @@ public final class SlowerForTheLate {
         if (good == 0) {
             return part == 0 ? 0 : 1;
         }
-        int common = commonDivisor(sum, good);
-        return (part == 0 ? sum : good) / common;
+        return inLeastTerms(part == 0 ? sum : good, sum, good);
     }
 
     public int two(int a, int b) {
@@ -883,14 +882,14 @@ public final class SlowerForTheLate {
         return told.size();
     }
 
-    /** The greatest one; the second number is ten at most, so counting down is short enough. */
-    private static int commonDivisor(int sum, int small) {
-        for (int divisor = small; divisor > 1; divisor--) {
-            if (sum % divisor == 0 && small % divisor == 0) {
-                return divisor;
+    /** Either side of a fraction; what is below its line is ten at most, so counting down is short. */
+    private static int inLeastTerms(int side, int above, int below) {
+        for (int divisor = below; divisor > 1; divisor--) {
+            if (above % divisor == 0 && below % divisor == 0) {
+                return side / divisor;
             }
         }
-        return 1;
+        return side;
     }
 
     /** Which exception comes tells which failure it is. */
