@@ -8,15 +8,21 @@ final class Check {
 
     private static int looked = 0;
     private static int wrong = 0;
+    private static String test = "";
 
     private Check() {
+    }
+
+    /** Of which test the calls are from here on, to be told with those that fail. */
+    static void within(String name) {
+        test = name.isEmpty() ? "" : name + ": ";
     }
 
     static void due(String call, long got, long want) {
         looked++;
         if (got != want) {
             wrong++;
-            System.out.println(call + " answered " + got + ", due is " + want);
+            System.out.println(test + call + " answered " + got + ", due is " + want);
         }
     }
 
