@@ -299,6 +299,20 @@ public final class BoundsDayTest {
         }
     }
 
+    @Keeps(promise = 14, sentence = Refusals.NOTHING_CHANGES)
+    static void p14_minus4_nothingChanges() {
+        for (int what = 1; what <= 5; what++) {
+            int of = what;
+            Refusals.refused("fate(0, " + what + ")", BoundsDayTest::withOneTooLate, x -> x.fate(0, of), -4);
+        }
+    }
+
+    private static SlowerForTheLate withOneTooLate() {
+        SlowerForTheLate x = Refusals.sample();
+        x.base(0, 300);
+        return x;
+    }
+
     @Keeps(promise = 14, sentence = FATE)
     static void p14_noSuchTraveller() {
         for (int t : Refusals.outside(0, 2)) {
@@ -365,6 +379,22 @@ public final class BoundsDayTest {
         // 7 by 7: 4.9, 9.8
         whens("t0209;s7;r007;r107;r207;r307;", 1, 28, 39, 50, 61, 72);
         whens("t0209;s7;r007;r107;r207;r307;", 2, 36, 52, 68, 84, 100);
+    }
+
+    @Keeps(promise = 15, sentence = "\"a by b, cut\" is a divided by b, toward 0")
+    static void p15_cutIsTowards0_neverUp() {
+        // 9 by 9: 8.1 and 16.2; 11 by 9: 9.9 and 19.8; 10 by 1: 1 and 2; 9 by 1: 0.9 and 1.8
+        int[][] wants = {{9, 9, 17, 25}, {11, 9, 20, 30}, {10, 1, 11, 12}, {9, 1, 9, 10}};
+        for (int[] want : wants) {
+            SlowerForTheLate x = new SlowerForTheLate();
+            x.train(0, 0);
+            x.run(0, want[0]);
+            x.set(2, want[1]);
+            for (int depth = 1; depth <= 2; depth++) {
+                Check.due("RUN " + want[0] + ", SLOW " + want[1] + ", DEPTH " + depth,
+                    x.when(0, depth, 1) - x.when(0, depth, 0), want[1 + depth]);
+            }
+        }
     }
 
     @Keeps(promise = 15, sentence = "On a PIECE one of DEPTH d takes RUN, and RUN times d times SLOW by 10, cut, more")

@@ -191,7 +191,15 @@ public final class BoundsLaterTest {
         mean("t3009;p0001300;", 1624, 5);
     }
 
+    private static final String MEAN_REFUSED = "ODDS: the mean, part 0 above, 1 below the line. Refused as told.";
+
     @Keeps(promise = 22, sentence = WIDE)
+    static void p22_ofLongsMinus1IsWider() {
+        Check.due("no such one", Check.of("t0209;p0001020;").mean(1, 0), -1000000001L);
+        Check.due("no such part", Check.of("t0209;p0001020;").mean(0, 2), -1000000001L);
+    }
+
+    @Keeps(promise = 22, sentence = MEAN_REFUSED)
     static void p22_noSuchTraveller() {
         for (int t : Refusals.outside(0, 2)) {
             Refusals.refused("mean(" + t + ", 0)", x -> x.mean(t, 0), Refusals.WIDE);
@@ -200,7 +208,7 @@ public final class BoundsLaterTest {
         Check.due("one beyond eight", Refusals.crowded().mean(8, 0), Refusals.WIDE);
     }
 
-    @Keeps(promise = 22, sentence = WIDE)
+    @Keeps(promise = 22, sentence = MEAN_REFUSED)
     static void p22_noSuchPart() {
         for (int part : Refusals.outside(0, 1)) {
             Refusals.refused("mean(0, " + part + ")", x -> x.mean(0, part), Refusals.WIDE);
@@ -236,6 +244,15 @@ public final class BoundsLaterTest {
     @Keeps(promise = 23, sentence = TWO)
     static void p23_noPairWillDo() {
         Check.due("never at rest", Check.of("t0301;t0201;g08;p2004026;p5504025;p2004025;").two(0, 1), -4);
+    }
+
+    @Keeps(promise = 23, sentence = Refusals.NOTHING_CHANGES)
+    static void p23_minus4_nothingChanges() {
+        Refusals.refused("two(0, 1)", BoundsLaterTest::neverAtRest, x -> x.two(0, 1), -4);
+    }
+
+    private static SlowerForTheLate neverAtRest() {
+        return Check.of("t0301;t0201;g08;p2004026;p5504025;p2004025;");
     }
 
     @Keeps(promise = 23, sentence = "TWO; -4. -1 (one twice).")

@@ -5,7 +5,7 @@ public final class BoundsOtherwiseTest {
     private static final String WIDE = "Of differences (CANCEL, LAW) -1 is -1000000001; of longs likewise.";
     private static final String STRIKE = "STRIKE: how many ARRIVE if only FIRSTS run.";
     private static final String SNOW = "SNOW: the latest MINUTE one ARRIVES, if each RUN is n more (0 .. 30).";
-    private static final String LAW = "LAW: how many more ARRIVE with LATE l than now.";
+    private static final String LAW = "LAW: how many more ARRIVE with LATE l than now;";
     private static final String BEST_LATE = "BEST LATE: that with most who ARRIVE, of several the least.";
     private static final String WORTH = "WORTH of a DAY: all MINUTES at which they ARRIVE (STRANDED 2000 each) together.";
     private static final String BEST =
@@ -40,6 +40,12 @@ public final class BoundsOtherwiseTest {
     }
 
     @Keeps(promise = 26, sentence = WIDE)
+    static void p26_aDifferenceOfMinus1IsNoRefusal() {
+        Check.due("one fewer", Check.of("t0209;" + FIRSTS_ALONE).cancel(0), -1);
+        Check.due("no such one", Check.of("t0209;" + FIRSTS_ALONE).cancel(1), Refusals.WIDE);
+    }
+
+    @Keeps(promise = 26, sentence = "CANCEL. Refused as told.")
     static void p26_noSuchTrain() {
         for (int train : Refusals.outside(0, 1)) {
             Refusals.refused("cancel(" + train + ")", x -> x.cancel(train), Refusals.WIDE);
@@ -115,6 +121,13 @@ public final class BoundsOtherwiseTest {
     }
 
     @Keeps(promise = 29, sentence = WIDE)
+    static void p29_aDifferenceOfMinus1IsNoRefusal() {
+        Check.due("one fewer", Check.of("t0209;p0001021;").law(0), -1);
+        Check.due("out of range", Check.of("t0209;p0001021;").law(-1), Refusals.WIDE);
+        Check.due("out of range", Check.of("t0209;p0001021;").law(31), Refusals.WIDE);
+    }
+
+    @Keeps(promise = 29, sentence = "LAW. Refused as told.")
     static void p29_outOfRange() {
         for (int late : Refusals.outside(0, 30)) {
             Refusals.refused("law(" + late + ")", x -> x.law(late), Refusals.WIDE);
@@ -264,6 +277,12 @@ public final class BoundsOtherwiseTest {
         Check.due("one too late", Check.of("t0209;p0001020;p0001031;").need(0), -4);
         Check.due("a CANCELLED first", Check.of("t0209;x0;" + FIRSTS_ALONE).need(0), -4);
         Refusals.refused("one too late", BoundsOtherwiseTest::withOneTooLate, x -> x.need(0), -4);
+    }
+
+    @Keeps(promise = 34, sentence = Refusals.NOTHING_CHANGES)
+    static void p34_minus4_nothingChanges() {
+        Refusals.refused("need(0)", BoundsOtherwiseTest::withOneTooLate, x -> x.need(0), -4);
+        Refusals.refused("need(1)", BoundsOtherwiseTest::withOneTooLate, x -> x.need(1), -4);
     }
 
     private static SlowerForTheLate withOneTooLate() {

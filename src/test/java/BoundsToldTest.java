@@ -166,6 +166,13 @@ public final class BoundsToldTest {
         Check.due("no other KIND aims", one(2, 9, 1, 0).takes(0, 0), 1);
     }
 
+    @Keeps(promise = 4, sentence = "\"a by b, cut\" is a divided by b, toward 0")
+    static void p04_cutIsTowards0_neverUp() {
+        Check.due("2 by 3 is 0", one(6, 2, 1, 0).takes(0, 0), 1);
+        Check.due("5 by 3 is 1", one(6, 5, 1, 0).takes(0, 1), 1);
+        Check.due("8 by 3 is 2", one(6, 8, 1, 0).takes(0, 2), 1);
+    }
+
     @Keeps(promise = 4, sentence = "Whether it TAKES a train of DEPTH d (0 .. 2): 1, 0. -1.")
     static void p04_noSuchTraveller() {
         for (int t : Refusals.outside(0, 2)) {
@@ -280,6 +287,17 @@ public final class BoundsToldTest {
         Check.due("how many", x.count(0), 8);
         Check.due("the last is as it was", x.traveller(7, 4), 7);
         Refusals.refused("a ninth", Refusals::crowded, y -> y.comes(Refusals.ONE, 0, 1, 0), -2);
+    }
+
+    @Keeps(promise = 6, sentence = Refusals.NOTHING_CHANGES)
+    static void p06_nothingChanges_neverThoughRefusedOften() {
+        SlowerForTheLate x = Refusals.crowded();
+        for (int time = 0; time < 9; time++) {
+            Check.due("-1", x.comes(Refusals.ONE, 0, 1, -1), -1);
+            Check.due("-2", x.comes(Refusals.ONE, 0, 1, 0), -2);
+            Check.due("-3", x.comes(Refusals.ONE, 1, 1, 0), -3);
+        }
+        Check.due("all is as it was", Refusals.told(x).equals(Refusals.told(Refusals.crowded())) ? 1 : 0, 1);
     }
 
     @Keeps(promise = 6, sentence = FIRST_AS_TOLD)

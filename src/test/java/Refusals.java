@@ -8,6 +8,11 @@ final class Refusals {
     /** -1 of differences and of longs. */
     static final int WIDE = -1000000001;
 
+    /** The sentence that all refusals have in common. */
+    static final String NOTHING_CHANGES =
+        "REFUSALS (answers; nothing changes): -1 no such one, a number out of its range; -2 there is no room; -3 it is not as it "
+        + "must be; -4 none.";
+
     // what sample() has on its shelves
     static final int NOTHING = 0;
     static final int ONE = 1;
