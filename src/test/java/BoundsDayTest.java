@@ -47,6 +47,16 @@ public final class BoundsDayTest {
     }
 
     @Keeps(promise = 14, sentence = NEXT)
+    static void p14_theLeastMinuteIsNext_atEachStop() {
+        for (int from = 0; from < 4; from++) {
+            String two = ("p00F40B0;p00F40B0;").replace("F", "" + from).replace("B", "" + (2 + from));
+            int minute = 20 + 10 * from;
+            arrives("t0211;t0201;" + two, 0, 1, 0, minute, 60, 4, 0, 0);
+            arrives("t0211;t0201;" + two, 1, 0, 0, minute + 1, 61, 4, 1, 1);
+        }
+    }
+
+    @Keeps(promise = 14, sentence = NEXT)
     static void p14_ofOneMinuteTheLeastTrain() {
         arrives("t0201;t0201;p0004020;p0004020;", 0, 0, 0, 20, 60, 4, 0, 0);
         arrives("t0201;t0201;p0004020;p0004020;", 1, 1, 0, 20, 60, 4, 1, 1);
@@ -105,6 +115,23 @@ public final class BoundsDayTest {
         // BASE 10 and COMES 19 against BASE and COMES 18
         Check.due("the earlier BASE", Check.of("t0201;p2904010;p0004018;").fate(0, 2), 1);
         Check.due("the earlier COMES", Check.of("t0201;p2904010;p0004018;").fate(1, 2), 0);
+    }
+
+    @Keeps(promise = 14, sentence = ASKED)
+    static void p14_allEightInTurn_whateverTheirNumbers() {
+        int[][] orders = {{0, 1, 2, 3, 4, 5, 6, 7}, {7, 6, 5, 4, 3, 2, 1, 0}, {3, 0, 6, 1, 7, 4, 2, 5}};
+        for (int[] order : orders) {
+            StringBuilder day = new StringBuilder("t0201;t0201;t0201;");
+            for (int place : order) {
+                day.append("p000401").append(place).append(';');
+            }
+            SlowerForTheLate x = Check.of(day.toString());
+            for (int t = 0; t < 8; t++) {
+                Check.due("TRAIN of " + order[t], x.fate(t, 1), order[t] % 3);
+                Check.due("DEPTH of " + order[t], x.fate(t, 2), order[t] / 3);
+                Check.due("PUSHED of " + order[t], x.fate(t, 7), order[t]);
+            }
+        }
     }
 
     @Keeps(promise = 14, sentence = ASKED)
@@ -475,6 +502,13 @@ public final class BoundsDayTest {
         sums("t0209;p0001031;", 0, 1, 0, 0, 0, 0);
     }
 
+    @Keeps(promise = 16, sentence = "all that were MISSED (till one got on)")
+    static void p16_oneAlone() {
+        sums("t0209;p0001015;", 1, 0, 0, 5, 0, 30);
+        sums("t0209;p7001021;", 1, 0, 1, 7, 4, 45);
+        sums("t0200;p0001020;", 0, 1, 3, 0, 0, 0);
+    }
+
     @Keeps(promise = 16, sentence = "SUMS: how many ARRIVE, are STRANDED;")
     static void p16_allEight() {
         sums("t0209;" + "p0001020;".repeat(8), 8, 0, 0, 0, 0, 30);
@@ -549,6 +583,18 @@ public final class BoundsDayTest {
             Check.due("no TRAVELLERS", Check.of("t0209;").fullest(0, depth), 0);
             Check.due("no SEATS", Check.of("t0200;p0001020;").fullest(0, depth), 0);
         }
+    }
+
+    @Keeps(promise = 18, sentence = "FULLEST: the most PLACES taken on it at once.")
+    static void p18_nobodyAnyMore() {
+        SlowerForTheLate x = Check.of("t0202;p7001020;p0001020;");
+        Check.due("two", x.fullest(0, 0), 2);
+        Check.due("one", x.fullest(0, 1), 1);
+        x.leaves(0);
+        Check.due("one", x.fullest(0, 0), 1);
+        Check.due("none", x.fullest(0, 1), 0);
+        x.leaves(0);
+        Check.due("none", x.fullest(0, 0), 0);
     }
 
     @Keeps(promise = 18, sentence = "FULLEST: the most PLACES taken on it at once.")

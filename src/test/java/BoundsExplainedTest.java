@@ -60,6 +60,13 @@ public final class BoundsExplainedTest {
     }
 
     @Keeps(promise = 36, sentence = TICKETS)
+    static void p36_lateMinus1IsNotTried() {
+        // with -1 who is PUSHED back would not have MISSED it, and be STRANDED
+        tickets("t0201;p0001020;p0001020;", 1, 0, -4, 0, -1);
+        tickets("t0201;p0001020;p0001020;", 1, 31, 0, 0, 1);
+    }
+
+    @Keeps(promise = 36, sentence = TICKETS)
     static void p36_noneFits_0AndMinus4() {
         tickets("t0209;p0001020;", 1, 0, -4, 1);
         tickets("t0209;p0001020;", 1, 0, -4, -1);
@@ -215,6 +222,12 @@ public final class BoundsExplainedTest {
         forged("t0209;g30;p0001050;", 1, -4, 1);
         forged("t0209;g30;p0001051;", 1, 0, 1);
         forged("t0209;g01;p0001021;", 1, -4, -1);
+    }
+
+    @Keeps(promise = 37, sentence = FORGED)
+    static void p37_lateMinus1IsNotTried() {
+        forged("t0201;p0001020;p0001020;", 1, 1, 0, -1);
+        forged("t0201;p0001020;p0001020;", 1, -4, 0, 1);
     }
 
     @Keeps(promise = 37, sentence = FORGED)

@@ -93,6 +93,12 @@ public final class BoundsLaterTest {
     }
 
     @Keeps(promise = 20, sentence = SLACK)
+    static void p20_1IfJustOneIsLeft() {
+        slack("t0209;p0004019;", 1);
+        slack("t0209;l00;p0004019;", 1);
+    }
+
+    @Keeps(promise = 20, sentence = SLACK)
     static void p20_60AtMost() {
         slack("t0589;p0004000;", 58);
         slack("t0599;p0004000;", 59);
@@ -284,6 +290,16 @@ public final class BoundsLaterTest {
         SlowerForTheLate y = Check.of("t0201;p0004020;" + others + "p0004010;");
         Check.due("the last of eight", y.whose(0), 128);
         Check.due("of the last", y.whose(7), 0);
+    }
+
+    @Keeps(promise = 24, sentence = WHOSE)
+    static void p24_severalAndAllOthers() {
+        Check.due("two ahead of it", Check.of("t0201;p0004010;p0004011;p0004012;").whose(2), 3);
+        Check.due("two behind it", Check.of("t0201;p0004012;p0004011;p0004010;").whose(0), 6);
+        Check.due("one ahead, one behind", Check.of("t0201;p0004010;p0004012;p0004011;").whose(1), 5);
+        SlowerForTheLate x = Check.of("t0207;" + "p0004020;".repeat(8));
+        Check.due("each of the seven others", x.whose(7), 127);
+        Check.due("of one who has a seat", x.whose(6), 0);
     }
 
     @Keeps(promise = 24, sentence = WHOSE)

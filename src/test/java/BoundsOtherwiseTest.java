@@ -148,6 +148,8 @@ public final class BoundsOtherwiseTest {
         Check.due("in time", Check.of("t0209;p0001020;").bestLate(), 0);
         Check.due("a minute late", Check.of("t0209;p0001021;").bestLate(), 1);
         Check.due("a new object", new SlowerForTheLate().bestLate(), 0);
+        // with -1 who is PUSHED back would not have MISSED it
+        Check.due("-1 is none", Check.of("t0201;p0001020;p0001020;").bestLate(), 0);
     }
 
     @Keeps(promise = 30, sentence = BEST_LATE)

@@ -377,6 +377,9 @@ public final class BoundsToldTest {
         Check.due("left", x.leaves(0), 7);
         for (int t = 0; t < 7; t++) {
             Check.due("KIND of number " + t, x.traveller(t, 0), t + 1);
+            Check.due("FIGURE of number " + t, x.traveller(t, 1), t + 1);
+            Check.due("FROM of number " + t, x.traveller(t, 2), (t + 1) % 4);
+            Check.due("TO of number " + t, x.traveller(t, 3), t == 4 ? 3 : 4);
             Check.due("BASE of number " + t, x.traveller(t, 4), 21 + t);
         }
         Check.due("number 7", x.traveller(7, 0), -1);

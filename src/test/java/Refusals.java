@@ -41,8 +41,8 @@ final class Refusals {
 
     /** Four trains and eight travellers: there is room for no more. */
     static SlowerForTheLate crowded() {
-        SlowerForTheLate x = Check.of("t0202;t0301;t0603;t0909;p0004020;p1104021;p2204022;p3304023;");
-        Check.write(x, 7, "p4404024;p5503025;p6604026;p7704027;x1;");
+        SlowerForTheLate x = Check.of("t0202;t0301;t0603;t0909;p0004020;p1114021;p2224022;p3334023;");
+        Check.write(x, 7, "p4404024;p5513025;p6624026;p7734027;x1;");
         x.day(7);
         shelves(x);
         return x;
