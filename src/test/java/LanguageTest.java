@@ -11,9 +11,11 @@ public final class LanguageTest {
     private static final String[] FORBIDDEN = {
         "\\bimport\\b", "\\bpackage\\b", "->", "::", "@", "\\bsynchronized\\b", "\\bassert\\b", "\\bfinally\\b", "\\bvolatile\\b",
         "\\bnative\\b", "\\bvar\\b", "\\bthrow\\s+(?!new\\b)", "Exact\\b", "getMessage", "\\bSystem\\.(?!arraycopy)", "\\bThread\\b",
-        "\\bObject\\b", "\\b(Byte|Short|Character|Boolean|Double|Float|Objects|Collections|Stream)\\b", "\\bMath\\.(?!max|min)",
-        "Integer\\.(?!bitCount)", "catch\\s*\\(\\s*(RuntimeException|Exception|Throwable|Error|ArrayIndex|Index|NullPointer"
-            + "|Arithmetic|ClassCast|NegativeArray|ArrayStore)", "\\b(hashCode|equals|toString)\\b", "static \\{",
+        "\\bObject\\b", "\\b(Byte|Short|Character|Boolean|Double|Float|Objects|Collections|Stream)\\b",
+        "\\bMath\\.(?!max|min|abs|floor(Div|Mod)|multiply)",
+        "\\b(Integer|Long)\\.(?!bitCount|compare|max|min|sum|signum|abs|numberOf|highestOne|lowestOne|rotate|reverse)",
+        "catch\\s*\\(\\s*(RuntimeException|Exception|Throwable|Error|ArrayIndex|Index|NullPointer|Arithmetic|ClassCast"
+            + "|NegativeArray|ArrayStore)", "\\b(hashCode|equals|toString)\\b", "static \\{",
         "\\bstatic (?!final|class|int|boolean|Walker)[a-z]+ "};
 
     public static void main(String[] args) throws IOException {
